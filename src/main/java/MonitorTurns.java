@@ -963,6 +963,14 @@ public final class MonitorTurns {
 
     /** Does the ACTS: each answers the KIND of the failure that came, or FINE. */
     private static final class Acts {
+        // the OPS, in the groups by which they are done
+        static final int SET = 0, ADD = 1, LESS = 2, TIMES = 3, BY = 4, BELOW = 5, GO = 6, GOZ = 7;
+        static final int HOLD = 8, NEW = 9, SAME = 10, PASS = 11, COUNT = 12, BUMP = 13, WEIGH = 14, MARK = 15;
+        static final int SIZE = 16, READ = 17, WRITE = 18, TAKE = 19, PUT = 20, COPY = 21;
+        static final int ENTER = 22, LEAVE = 23, WAIT = 24, TELL = 25, TELLALL = 26;
+        static final int SLEEP = 27, JOIN = 28, START = 29, BREAK = 30;
+        static final int ASK = 31, RAISE = 32, TRY = 33, DONE = 34, CAUGHT = 35, REST = 36;
+
         final Shelf shelf;
         final Crew crew;
         /** How many ACTS began ever. */
@@ -991,41 +999,41 @@ public final class MonitorTurns {
             s.begun++;
             // a THREAD that stops at an ACT has it behind it, so PLACE goes on ahead of the ACT
             s.place++;
-            if (op <= 7) {
+            if (op <= GOZ) {
                 return reckon(s, op, a, b, c);
             }
-            if (op <= 15) {
+            if (op <= MARK) {
                 return useThings(s, op, a, b, c);
             }
-            if (op <= 21) {
+            if (op <= COPY) {
                 return useRows(s, op, a, b, c);
             }
-            if (op <= 26) {
+            if (op <= TELLALL) {
                 return useMonitors(s, op, a, b);
             }
-            return op <= 30 ? useThreads(s, op, a) : useHandlers(s, op, a, b);
+            return op <= BREAK ? useThreads(s, op, a) : useHandlers(s, op, a, b);
         }
 
         private int reckon(Strand s, int op, int a, int b, int c) {
             switch (op) {
-                case 0: // SET
+                case SET:
                     s.keep(a, b);
                     return FINE;
-                case 1: // ADD
+                case ADD:
                     s.keep(a, s.kept(a) + s.kept(b));
                     return FINE;
-                case 2: // LESS
+                case LESS:
                     s.keep(a, s.kept(a) - s.kept(b));
                     return FINE;
-                case 3: // TIMES
+                case TIMES:
                     s.keep(a, s.kept(a) * s.kept(b));
                     return FINE;
-                case 4: // BY
+                case BY:
                     return divide(s, a, s.kept(b));
-                case 5: // BELOW
+                case BELOW:
                     s.keep(a, s.kept(b) < s.kept(c) ? 1 : 0);
                     return FINE;
-                case 6: // GO
+                case GO:
                     s.jump(a);
                     return FINE;
                 default: // GOZ
@@ -1046,21 +1054,21 @@ public final class MonitorTurns {
 
         private int useThings(Strand s, int op, int a, int b, int c) {
             switch (op) {
-                case 8: // HOLD
+                case HOLD:
                     return holdNumber(s, a, s.kept(b));
-                case 9: // NEW
+                case NEW:
                     return makeThing(s, a, b, s.kept(c));
-                case 10: // SAME
+                case SAME:
                     s.keep(a, s.held(b) == s.held(c) ? 1 : 0);
                     return FINE;
-                case 11: // PASS
+                case PASS:
                     s.grasp(a, s.held(b));
                     return FINE;
-                case 12: // COUNT
+                case COUNT:
                     return readCount(s, a, inHand(s, b));
-                case 13: // BUMP
+                case BUMP:
                     return bump(inHand(s, a), s.kept(b));
-                case 14: // WEIGH
+                case WEIGH:
                     return weighInto(s, a, inHand(s, b));
                 default: // MARK
                     return readMark(s, a, inHand(s, b));
@@ -1134,15 +1142,15 @@ public final class MonitorTurns {
 
         private int useRows(Strand s, int op, int a, int b, int c) {
             switch (op) {
-                case 16: // SIZE
+                case SIZE:
                     return readSize(s, a, inHand(s, b));
-                case 17: // READ
+                case READ:
                     return readNumber(s, a, inHand(s, b), s.kept(c));
-                case 18: // WRITE
+                case WRITE:
                     return writeNumber(inHand(s, a), s.kept(b), s.kept(c));
-                case 19: // TAKE
+                case TAKE:
                     return takeThing(s, a, inHand(s, b), s.kept(c));
-                case 20: // PUT
+                case PUT:
                     return putThing(inHand(s, a), s.kept(b), s.held(c));
                 default: // COPY
                     return copy(inHand(s, a), inHand(s, b), s.kept(c));
@@ -1247,18 +1255,18 @@ public final class MonitorTurns {
                 return NULL_FAILURE;
             }
             boolean in = t.owner == s.number;
-            if (op == 22) { // ENTER
+            if (op == ENTER) {
                 return enter(s, t, in);
             }
             if (!in) {
                 return OWNER_FAILURE;
             }
             switch (op) {
-                case 23: // LEAVE
+                case LEAVE:
                     return leave(t);
-                case 24: // WAIT
+                case WAIT:
                     return waitOn(s, t, s.kept(b));
-                case 25: // TELL
+                case TELL:
                     crew.tellNext(t);
                     return FINE;
                 default: // TELLALL
@@ -1295,7 +1303,7 @@ public final class MonitorTurns {
 
         private int useThreads(Strand s, int op, int a) {
             int number = s.kept(a);
-            if (op == 27) { // SLEEP
+            if (op == SLEEP) {
                 return sleep(s, number);
             }
             Strand other = crew.at(number);
@@ -1303,9 +1311,9 @@ public final class MonitorTurns {
                 return INDEX_FAILURE;
             }
             switch (op) {
-                case 28: // JOIN
+                case JOIN:
                     return join(s, other);
-                case 29: // START
+                case START:
                     return startNew(other);
                 default: // BREAK
                     crew.interrupt(other);
@@ -1344,18 +1352,18 @@ public final class MonitorTurns {
 
         private int useHandlers(Strand s, int op, int a, int b) {
             switch (op) {
-                case 31: // ASK
+                case ASK:
                     s.keep(a, s.takeFlag() ? 1 : 0);
                     return FINE;
-                case 32: // RAISE
+                case RAISE:
                     s.raised = s.kept(a);
                     return OWN_FAILURE;
-                case 33: // TRY
+                case TRY:
                     return s.handlers.push(a, b) ? FINE : ROOM_FAILURE;
-                case 34: // DONE
+                case DONE:
                     s.handlers.size = Math.max(s.handlers.size - 1, 0);
                     return FINE;
-                case 35: // CAUGHT
+                case CAUGHT:
                     s.keep(a, s.caughtKind);
                     s.keep(b, s.caughtNumber);
                     return FINE;

@@ -654,7 +654,7 @@ public final class MonitorTurns {
         }
 
         void renew(Program newProgram, int newRank) {
-            state = IS_NEW;
+            become(IS_NEW, NONE, NONE);
             program = newProgram;
             rank = newRank;
             place = 0;
@@ -667,8 +667,6 @@ public final class MonitorTurns {
             caughtNumber = 0;
             endKind = 0;
             endNumber = 0;
-            target = NONE;
-            until = NONE;
             begun = 0;
         }
 

@@ -137,6 +137,8 @@ public final class ActsTest {
         // of what is no ROW Rc does not matter
         handIs(11, row(), row(-5), Ops.NEW, 0, Ops.CHEST, 0);
         handIs(12, row(), row(13), Ops.NEW, 0, Ops.PLAIN, 0);
+        DUE.is("item(11, 0): no ROW", x.item(11, 0), Ops.BAD);
+        DUE.is("item(12, 0): no ROW", x.item(12, 0), Ops.BAD);
         fails(Ops.F_SIZE, row(3), row(-1), Ops.NEW, 0, Ops.BYTES, 0);
         fails(Ops.F_SIZE, row(3), row(Ops.LEAST), Ops.NEW, 0, Ops.BOXES, 0);
         fails(Ops.F_ROOM, row(3), row(13), Ops.NEW, 0, Ops.INTS, 0);

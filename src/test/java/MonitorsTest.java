@@ -257,6 +257,13 @@ public final class MonitorsTest {
         states("at 6", Ops.T_READY, Ops.T_READY);
         in("at 6", 0, 0, 1);
         timedWaitBlocked();
+        // the least time: it comes in the next turn
+        fresh();
+        go(0, row(1), ENTER, WAIT, REST, REST);
+        x.run(2);
+        DUE.is("told(0, 6)", x.told(0, 6), 3);
+        DUE.is("turn()", x.turn(), 0);
+        DUE.is("told(0, 1)", x.told(0, 1), 3);
         // no time: it is not above 0
         fresh();
         go(0, row(-5), ENTER, WAIT, REST);

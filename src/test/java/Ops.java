@@ -1,5 +1,5 @@
-/** Names for the document's numbers, and short ways to set up threads. */
-final class Ops {
+/** Names for the document's numbers, and short ways to set up threads; a test may inherit them. */
+abstract class Ops {
     static final int SET = 0, ADD = 1, LESS = 2, TIMES = 3, BY = 4, BELOW = 5, GO = 6, GOZ = 7, HOLD = 8, NEW = 9,
             SAME = 10, PASS = 11, COUNT = 12, BUMP = 13, WEIGH = 14, MARK = 15, SIZE = 16, READ = 17, WRITE = 18,
             TAKE = 19, PUT = 20, COPY = 21, ENTER = 22, LEAVE = 23, WAIT = 24, TELL = 25, TELLALL = 26, SLEEP = 27,
@@ -18,9 +18,6 @@ final class Ops {
             OVER = MonitorTurns.OVER;
 
     static final int LEAST = Integer.MIN_VALUE, MOST = Integer.MAX_VALUE;
-
-    private Ops() {
-    }
 
     /** An act as a row: the op, then a, b, c (0 where they are left out). */
     static int[] op(int op, int... abc) {

@@ -39,6 +39,19 @@ final class Due {
         }
     }
 
+    /** What THREADS 0, 1, .. are. */
+    void states(MonitorTurns x, int... want) {
+        for (int t = 0; t < want.length; t++) {
+            is("told(" + t + ", 0)", x.told(t, 0), want[t]);
+        }
+    }
+
+    /** Which THREAD is in a THING, with which DEPTH. */
+    void in(MonitorTurns x, int thing, int thread, int depth) {
+        is("of(" + thing + ", 2)", x.of(thing, 2), thread);
+        is("of(" + thing + ", 3)", x.of(thing, 3), depth);
+    }
+
     void holds(String what, boolean holds) {
         looked++;
         if (!holds) {

@@ -48,6 +48,8 @@ public final class EdgesOfActsTest extends Scenes {
         copyNothingIntoBoth();
         copyIndexAheadOfStore();
         copyEachAsItStandsThen();
+        kindsThatAreOthersToo();
+        nothingTakenAsAnything();
         rest();
         DUE.close();
     }
@@ -280,6 +282,8 @@ public final class EdgesOfActsTest extends Scenes {
                 MonitorTurns x = did(shelf(), NO_HANDS, row(n), op(NEW, 0, kind, 0));
                 DUE.is("hand(0, 0)", x.hand(0, 0), SHELF);
                 DUE.is("of(9, 0)", x.of(SHELF, 0), kind);
+                DUE.is("of(9, 1)", x.of(SHELF, 1), 0);
+                DUE.is("item(9, 0)", x.item(SHELF, 0), BAD);
             }
         }
     }
@@ -639,6 +643,39 @@ public final class EdgesOfActsTest extends Scenes {
         DUE.is("told(0, 1): all onto itself", x.told(0, 1), 1);
         itemsAre(x, 0, 1, 2, 3, 4);
         fails(F_INDEX, twoRows(INTS, 4, INTS, 0), row(0), row(4), op(COPY, 0, 0, 0));
+    }
+
+    private static void kindsThatAreOthersToo() {
+        DUE.sentence("2 CRATE (a BOX, too); 3 CHEST (a CRATE, too); .. 7 of BOXES (a ROW of THINGS, too)");
+        for (int kind : row(CRATE, CHEST)) {
+            MonitorTurns x = did(shelf(), row(kind, BOXES, THINGS), row(4, 2), op(BUMP, 0, 0), op(COUNT, 2, 0),
+                    op(MARK, 3, 0), op(PUT, 1, 1, 0), op(TAKE, 5, 1, 1), op(PUT, 2, 1, 1));
+            DUE.is("COUNT AS a BOX", x.register(0, 2), 4);
+            DUE.is("MARK AS a CRATE", x.register(0, 3), 5);
+            DUE.is("PUT where BOXES FIT", x.item(BOXES, 2), kind);
+            DUE.is("TAKE of BOXES AS a ROW of THINGS", x.hand(0, 5), kind);
+            DUE.is("PUT of a ROW, which is a THING, too", x.item(THINGS, 2), BOXES);
+        }
+        // not the other way round
+        fails(F_CAST, shelf(), row(BOX), row(0), op(MARK, 0, 0));
+        fails(F_STORE, shelf(), row(BOXES, THINGS), row(0), op(PUT, 0, 0, 1));
+        fails(F_STORE, shelf(), row(BOXES, BOXES), row(0), op(PUT, 0, 0, 1));
+    }
+
+    private static void nothingTakenAsAnything() {
+        DUE.sentence("NOTHING may be taken as anything (NULL, when it is used)");
+        for (int op : row(COUNT, WEIGH, MARK, SIZE, READ, TAKE)) {
+            fails(F_NULL, shelf(), row(NONE, NONE), row(0, 0), op(op, 0, 1, 0));
+        }
+        for (int op : row(BUMP, WRITE, PUT, COPY, ENTER, LEAVE, WAIT, TELL, TELLALL)) {
+            fails(F_NULL, shelf(), row(NONE, NONE), row(0, 0), op(op, 0, 1, 1));
+        }
+        // SAME, PASS and PUT do not use what they look at, pass on, put
+        MonitorTurns x = did(shelf(), row(NONE, NONE, BOXES), row(0, 9), op(SAME, 1, 0, 1), op(PASS, 3, 0),
+                op(PUT, 2, 0, 1));
+        DUE.is("told(0, 1)", x.told(0, 1), 3);
+        DUE.is("register(0, 1)", x.register(0, 1), 1);
+        DUE.is("count(12)", x.count(12), 0);
     }
 
     private static void rest() {

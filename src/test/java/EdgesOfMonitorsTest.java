@@ -50,17 +50,6 @@ public final class EdgesOfMonitorsTest extends Scenes {
         DUE.close();
     }
 
-    private static void states(MonitorTurns x, int... want) {
-        for (int t = 0; t < want.length; t++) {
-            DUE.is("told(" + t + ", 0)", x.told(t, 0), want[t]);
-        }
-    }
-
-    private static void in(MonitorTurns x, int thing, int thread, int depth) {
-        DUE.is("of(" + thing + ", 2)", x.of(thing, 2), thread);
-        DUE.is("of(" + thing + ", 3)", x.of(thing, 3), depth);
-    }
-
     // ---- TO GET IN, ENTER, LEAVE
 
     private static void oneThreadAtMost() {
@@ -70,15 +59,15 @@ public final class EdgesOfMonitorsTest extends Scenes {
             go(x, t, ONE, row(), IN, stayAt(1));
         }
         x.run(6);
-        states(x, T_READY, T_BLOCKED, T_BLOCKED, T_BLOCKED, T_BLOCKED, T_BLOCKED);
-        in(x, PLAIN, 0, 1);
+        DUE.states(x, T_READY, T_BLOCKED, T_BLOCKED, T_BLOCKED, T_BLOCKED, T_BLOCKED);
+        DUE.in(x, PLAIN, 0, 1);
         // one thread may be in as many as it likes
         x = shelf();
         go(x, 3, row(0, 1, 2, 3, 4, 5), row(), op(ENTER, 0), op(ENTER, 1), op(ENTER, 2), op(ENTER, 3), op(ENTER, 4),
                 op(ENTER, 5), PAUSE);
         x.run(6);
         for (int thing = 0; thing < 6; thing++) {
-            in(x, thing, 3, 1);
+            DUE.in(x, thing, 3, 1);
         }
     }
 
@@ -97,11 +86,11 @@ public final class EdgesOfMonitorsTest extends Scenes {
             go(x, 0, row(thing), row(), IN, stayAt(1));
             go(x, 1, row(thing), row(), IN, stayAt(1));
             x.turn();
-            states(x, T_READY, T_READY);
-            in(x, thing, 0, 1);
+            DUE.states(x, T_READY, T_READY);
+            DUE.in(x, thing, 0, 1);
             x.turn();
-            states(x, T_READY, T_BLOCKED);
-            in(x, thing, 0, 1);
+            DUE.states(x, T_READY, T_BLOCKED);
+            DUE.in(x, thing, 0, 1);
             DUE.is("told(1, 5)", x.told(1, 5), thing);
         }
     }
@@ -111,13 +100,13 @@ public final class EdgesOfMonitorsTest extends Scenes {
         MonitorTurns x = shelf();
         go(x, 0, ONE, row(), IN, IN, op(ENTER, 1), PAUSE);
         x.turn();
-        in(x, PLAIN, 0, 1);
+        DUE.in(x, PLAIN, 0, 1);
         x.turn();
-        in(x, PLAIN, 0, 2);
-        in(x, BOX, NONE, 0);
+        DUE.in(x, PLAIN, 0, 2);
+        DUE.in(x, BOX, NONE, 0);
         x.turn();
-        in(x, PLAIN, 0, 2);
-        in(x, BOX, 0, 1);
+        DUE.in(x, PLAIN, 0, 2);
+        DUE.in(x, BOX, 0, 1);
     }
 
     private static void depthHasNoEnd() {
@@ -127,17 +116,17 @@ public final class EdgesOfMonitorsTest extends Scenes {
         for (int i = 0; i < 20; i++) {
             x.run(60);
         }
-        in(x, PLAIN, 0, 400);
+        DUE.in(x, PLAIN, 0, 400);
         x.set(0, 0, 0);
         x.turn();
         for (int i = 0; i < 13; i++) {
             x.run(60);
         }
-        in(x, PLAIN, 0, 10);
+        DUE.in(x, PLAIN, 0, 10);
         x.run(18);
-        in(x, PLAIN, 0, 1);
+        DUE.in(x, PLAIN, 0, 1);
         x.turn();
-        in(x, PLAIN, NONE, 0);
+        DUE.in(x, PLAIN, NONE, 0);
         x.run(2);
         DUE.is("told(0, 2): one LEAVE too many", x.told(0, 2), F_OWNER);
     }
@@ -157,16 +146,16 @@ public final class EdgesOfMonitorsTest extends Scenes {
         go(x, 0, ONE, row(), OUT);
         DUE.is("turn()", x.turn(), 0);
         DUE.is("told(0, 2), another one is in", x.told(0, 2), F_OWNER);
-        in(x, PLAIN, 1, 1);
+        DUE.in(x, PLAIN, 1, 1);
     }
 
     private static void leaveWithoutAnybodyBlocked() {
         DUE.sentence("at 0 THE THING IS LEFT (nobody is BLOCKED by it)");
         MonitorTurns x = did(shelf(), ONE, row(), IN, IN, OUT);
-        in(x, PLAIN, 0, 1);
+        DUE.in(x, PLAIN, 0, 1);
         x = did(shelf(), ONE, row(), IN, IN, OUT, OUT);
-        in(x, PLAIN, NONE, 0);
-        states(x, T_READY);
+        DUE.in(x, PLAIN, NONE, 0);
+        DUE.states(x, T_READY);
     }
 
     private static void leaveLetsInTheNext() {
@@ -177,17 +166,17 @@ public final class EdgesOfMonitorsTest extends Scenes {
         go(x, 2, ONE, row(), op(ENTER, 1), op(ENTER, 0), stayAt(2));
         go(x, 3, ONE, row(), op(ENTER, 1), stayAt(1));
         x.run(4);
-        states(x, T_READY, T_BLOCKED, T_READY, T_BLOCKED);
+        DUE.states(x, T_READY, T_BLOCKED, T_READY, T_BLOCKED);
         x.run(2);
-        states(x, T_READY, T_BLOCKED, T_BLOCKED, T_BLOCKED);
+        DUE.states(x, T_READY, T_BLOCKED, T_BLOCKED, T_BLOCKED);
         x.turn();
         // DEPTH is 1: not left yet
-        in(x, PLAIN, 0, 1);
-        states(x, T_READY, T_BLOCKED, T_BLOCKED, T_BLOCKED);
+        DUE.in(x, PLAIN, 0, 1);
+        DUE.states(x, T_READY, T_BLOCKED, T_BLOCKED, T_BLOCKED);
         x.turn();
-        in(x, PLAIN, 1, 1);
-        in(x, BOX, 2, 1);
-        states(x, T_READY, T_READY, T_BLOCKED, T_BLOCKED);
+        DUE.in(x, PLAIN, 1, 1);
+        DUE.in(x, BOX, 2, 1);
+        DUE.states(x, T_READY, T_READY, T_BLOCKED, T_BLOCKED);
         DUE.is("told(1, 5)", x.told(1, 5), NONE);
         DUE.is("told(1, 1)", x.told(1, 1), 1);
     }
@@ -218,34 +207,34 @@ public final class EdgesOfMonitorsTest extends Scenes {
         x.turn();
         DUE.is("count(9)", x.count(9), 1);
         DUE.is("told(0, 4)", x.told(0, 4), 0);
-        states(x, T_READY);
-        in(x, PLAIN, 0, 2);
+        DUE.states(x, T_READY);
+        DUE.in(x, PLAIN, 0, 2);
         DUE.is("of(0, 5)", x.of(PLAIN, 5), 0);
         x.turn();
-        states(x, T_WAITING);
+        DUE.states(x, T_WAITING);
     }
 
     private static void waitLeavesTheThing() {
         DUE.sentence("else THE THING IS LEFT, and it is WAITING");
         MonitorTurns x = did(shelf(), ONE, row(), IN, IN, IN, AWAIT);
-        in(x, PLAIN, NONE, 0);
-        states(x, T_WAITING);
+        DUE.in(x, PLAIN, NONE, 0);
+        DUE.states(x, T_WAITING);
         x = shelf();
         go(x, 0, ONE, row(), IN, IN, AWAIT, PAUSE);
         go(x, 1, ONE, row(), IN, stayAt(1));
         go(x, 2, ONE, row(), IN, stayAt(1));
         x.run(3);
-        states(x, T_READY, T_BLOCKED, T_BLOCKED);
+        DUE.states(x, T_READY, T_BLOCKED, T_BLOCKED);
         x.run(2);
-        states(x, T_WAITING, T_READY, T_BLOCKED);
-        in(x, PLAIN, 1, 1);
+        DUE.states(x, T_WAITING, T_READY, T_BLOCKED);
+        DUE.in(x, PLAIN, 1, 1);
     }
 
     private static void waitWithoutATime() {
         DUE.sentence("if Rb is above 0 (WAIT: 0 and below)");
         for (int stay : row(0, -1, LEAST)) {
             MonitorTurns x = did(shelf(), ONE, row(stay), IN, AWAIT);
-            states(x, T_WAITING);
+            DUE.states(x, T_WAITING);
             DUE.is("told(0, 6)", x.told(0, 6), NONE);
             DUE.is("turn()", x.turn(), STUCK);
         }
@@ -260,11 +249,11 @@ public final class EdgesOfMonitorsTest extends Scenes {
             DUE.is("told(0, 6)", x.told(0, 6), 2 + stay);
             for (int i = 1; i < stay; i++) {
                 DUE.is("turn()", x.turn(), IDLE);
-                states(x, T_WAITING);
+                DUE.states(x, T_WAITING);
             }
             DUE.is("turn()", x.turn(), 0);
             DUE.is("count(0)", x.count(0), 2 + stay);
-            in(x, PLAIN, 0, 1);
+            DUE.in(x, PLAIN, 0, 1);
             DUE.is("told(0, 6)", x.told(0, 6), NONE);
         }
     }
@@ -289,13 +278,13 @@ public final class EdgesOfMonitorsTest extends Scenes {
             go(x, 0, ONE, row(), op(tell, 0), PAUSE);
             x.turn();
             DUE.is("told(0, 2), nobody is in", x.told(0, 2), F_OWNER);
-            states(x, T_ENDED, T_WAITING);
+            DUE.states(x, T_ENDED, T_WAITING);
             go(x, 2, ONE, row(), IN, stayAt(1));
             x.turn();
             go(x, 0, ONE, row(), op(ENTER, 1), op(tell, 0), PAUSE);
             x.run(4);
             DUE.is("told(0, 2), another one is in", x.told(0, 2), F_OWNER);
-            states(x, T_ENDED, T_WAITING);
+            DUE.states(x, T_ENDED, T_WAITING);
         }
     }
 
@@ -308,9 +297,9 @@ public final class EdgesOfMonitorsTest extends Scenes {
             go(x, 0, ONE, row(), IN, op(tell, 0), PAUSE);
             x.run(2);
             // thread 1 waits on another THING
-            states(x, T_READY, T_WAITING);
+            DUE.states(x, T_READY, T_WAITING);
             DUE.is("told(0, 1)", x.told(0, 1), 2);
-            in(x, PLAIN, 0, 1);
+            DUE.in(x, PLAIN, 0, 1);
         }
     }
 
@@ -335,7 +324,7 @@ public final class EdgesOfMonitorsTest extends Scenes {
     private static void tellToOne() {
         DUE.sentence("TELL: .. the NEXT of those WAITING on it .. begins TO GET IN");
         MonitorTurns x = allWait(TELL);
-        states(x, T_BLOCKED, T_WAITING, T_WAITING, T_WAITING, T_WAITING, T_READY);
+        DUE.states(x, T_BLOCKED, T_WAITING, T_WAITING, T_WAITING, T_WAITING, T_READY);
         DUE.is("of(0, 4)", x.of(PLAIN, 4), 1);
         DUE.is("of(0, 5)", x.of(PLAIN, 5), 4);
         DUE.is("told(0, 5)", x.told(0, 5), PLAIN);
@@ -346,7 +335,7 @@ public final class EdgesOfMonitorsTest extends Scenes {
         int[] first = {0, 4, 0};
         for (int order = 0; order < 3; order++) {
             MonitorTurns x = allWait(TELLALL);
-            states(x, T_BLOCKED, T_BLOCKED, T_BLOCKED, T_BLOCKED, T_BLOCKED, T_READY);
+            DUE.states(x, T_BLOCKED, T_BLOCKED, T_BLOCKED, T_BLOCKED, T_BLOCKED, T_READY);
             DUE.is("of(0, 4)", x.of(PLAIN, 4), 5);
             DUE.is("of(0, 5)", x.of(PLAIN, 5), 0);
             x.order(order);
@@ -361,7 +350,7 @@ public final class EdgesOfMonitorsTest extends Scenes {
         }
         go(x, 5, ONE, row(), IN, op(TELLALL, 0), OUT, PAUSE);
         x.run(3);
-        in(x, PLAIN, 0, 1);
+        DUE.in(x, PLAIN, 0, 1);
     }
 
     private static void tellKeepsTheDepth() {
@@ -369,19 +358,19 @@ public final class EdgesOfMonitorsTest extends Scenes {
         MonitorTurns x = allWait(TELLALL);
         DUE.is("turn()", x.turn(), 5);
         for (int t = 0; t < 5; t++) {
-            in(x, PLAIN, t, t + 1);
+            DUE.in(x, PLAIN, t, t + 1);
             // it comes to its END, where it leaves the THING
             DUE.is("turn()", x.turn(), t);
         }
-        in(x, PLAIN, NONE, 0);
+        DUE.in(x, PLAIN, NONE, 0);
         // of one whose TIME came, of one that is BROKEN
         x = shelf();
         go(x, 0, ONE, row(1), IN, IN, IN, AWAIT, PAUSE, PAUSE);
         x.run(5);
-        in(x, PLAIN, 0, 3);
+        DUE.in(x, PLAIN, 0, 3);
         x = did(shelf(), ONE, row(), IN, IN, AWAIT);
         x.broken(0);
-        in(x, PLAIN, 0, 2);
+        DUE.in(x, PLAIN, 0, 2);
     }
 
     // ---- SLEEP
@@ -400,7 +389,7 @@ public final class EdgesOfMonitorsTest extends Scenes {
         DUE.sentence("if Ra is above 0 (SLEEP: 0 and below)");
         for (int stay : row(0, -1, LEAST)) {
             MonitorTurns x = did(shelf(), ONE, row(stay), op(SLEEP, 0));
-            states(x, T_READY);
+            DUE.states(x, T_READY);
             DUE.is("told(0, 6)", x.told(0, 6), NONE);
             DUE.is("told(0, 1)", x.told(0, 1), 1);
         }
@@ -412,14 +401,14 @@ public final class EdgesOfMonitorsTest extends Scenes {
             MonitorTurns x = shelf();
             go(x, 0, ONE, row(stay), op(SLEEP, 0), PAUSE, PAUSE);
             x.turn();
-            states(x, T_SLEEPING);
+            DUE.states(x, T_SLEEPING);
             DUE.is("told(0, 6)", x.told(0, 6), 1 + stay);
             for (int i = 1; i < stay; i++) {
                 DUE.is("turn()", x.turn(), IDLE);
             }
             DUE.is("turn()", x.turn(), 0);
             DUE.is("count(0)", x.count(0), 1 + stay);
-            states(x, T_READY);
+            DUE.states(x, T_READY);
         }
     }
 
@@ -477,10 +466,10 @@ public final class EdgesOfMonitorsTest extends Scenes {
             go(x, 3, ONE, row(0), op(JOIN, 0), stayAt(1));
             go(x, 2, ONE, row(), PAUSE, last);
             x.run(4);
-            states(x, T_JOINING, T_JOINING, T_READY, T_JOINING);
+            DUE.states(x, T_JOINING, T_JOINING, T_READY, T_JOINING);
             x.turn();
             // by its END, by a failure; who joins another one goes on joining
-            states(x, T_READY, T_READY, T_ENDED, T_JOINING);
+            DUE.states(x, T_READY, T_READY, T_ENDED, T_JOINING);
             DUE.is("told(0, 5)", x.told(0, 5), NONE);
         }
     }
@@ -488,7 +477,7 @@ public final class EdgesOfMonitorsTest extends Scenes {
     private static void joinItself() {
         DUE.sentence("(itself, too)");
         MonitorTurns x = did(shelf(), ONE, row(0), op(JOIN, 0));
-        states(x, T_JOINING);
+        DUE.states(x, T_JOINING);
         DUE.is("told(0, 5)", x.told(0, 5), 0);
         DUE.is("turn()", x.turn(), STUCK);
         x.broken(0);
@@ -540,7 +529,7 @@ public final class EdgesOfMonitorsTest extends Scenes {
             }
             DUE.is("told(5, 1)", x.told(5, 1), 1);
             DUE.is("told(5, 4)", x.told(5, 4), 0);
-            in(x, PLAIN, y.of(PLAIN, 2), y.of(PLAIN, 3));
+            DUE.in(x, PLAIN, y.of(PLAIN, 2), y.of(PLAIN, 3));
         }
         DUE.is("BREAK of itself", did(shelf(), ONE, row(0), op(BREAK, 0)).told(0, 4), 1);
     }
@@ -575,10 +564,10 @@ public final class EdgesOfMonitorsTest extends Scenes {
             x.order(order);
             x.turn();
             for (int t : NEXT[order]) {
-                in(x, PLAIN, t, 1);
+                DUE.in(x, PLAIN, t, 1);
                 DUE.is("turn() by ORDER " + order, x.turn(), t);
             }
-            in(x, PLAIN, NONE, 0);
+            DUE.in(x, PLAIN, NONE, 0);
         }
     }
 
@@ -630,7 +619,7 @@ public final class EdgesOfMonitorsTest extends Scenes {
         x.turn();
         go(x, 2, ONE, row(), IN, PAUSE);
         x.run(4);
-        in(x, PLAIN, 2, 1);
+        DUE.in(x, PLAIN, 2, 1);
         DUE.is("told(3, 0)", x.told(3, 0), T_BLOCKED);
     }
 }

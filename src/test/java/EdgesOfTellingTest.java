@@ -15,6 +15,7 @@ public final class EdgesOfTellingTest extends Scenes {
         toldFlag();
         toldTarget();
         toldTill();
+        toldNoneAgain();
         toldHandlers();
         toldActs();
         toldIsBad();
@@ -180,6 +181,60 @@ public final class EdgesOfTellingTest extends Scenes {
         DUE.is("told(0, 6)", x.told(0, 6), 11);
         x.run(9);
         DUE.is("told(0, 6), its TIME came", x.told(0, 6), NONE);
+    }
+
+    /** THREAD 0 is READY, and hangs on nobody. */
+    private static void isReadyAgain(String how, MonitorTurns x) {
+        DUE.is("told(0, 0) " + how, x.told(0, 0), T_READY);
+        DUE.is("told(0, 5) " + how, x.told(0, 5), NONE);
+        DUE.is("told(0, 6) " + how, x.told(0, 6), NONE);
+    }
+
+    private static void toldNoneAgain() {
+        DUE.sentence("5 .. (NONE), 6 .. (NONE) (behind each way by which a THREAD is READY)");
+        MonitorTurns x = inState(T_NEW);
+        x.start(0);
+        isReadyAgain("behind start()", x);
+        x = inState(T_NEW);
+        go(x, 1, row(), row(0), op(START, 0), op(GO, 1));
+        x.turn();
+        isReadyAgain("behind START", x);
+        x = shelf();
+        go(x, 0, ONE, row(), op(ENTER, 0), PAUSE);
+        x.turn();
+        isReadyAgain("behind ENTER", x);
+        x = shelf();
+        go(x, 0, ONE, row(2), op(SLEEP, 0), PAUSE, PAUSE);
+        x.run(3);
+        isReadyAgain("behind SLEEP", x);
+        x = shelf();
+        go(x, 0, ONE, row(2), op(ENTER, 0), op(WAIT, 0, 0), PAUSE, PAUSE);
+        x.run(4);
+        isReadyAgain("behind WAIT for a TIME", x);
+        x = shelf();
+        go(x, 0, ONE, row(1), op(JOIN, 0), PAUSE);
+        go(x, 1, ONE, row(), PAUSE);
+        x.run(2);
+        isReadyAgain("behind JOIN", x);
+        for (int state : row(T_WAITING, T_SLEEPING, T_JOINING)) {
+            x = inState(state);
+            x.broken(0);
+            isReadyAgain("BROKEN in state " + state, x);
+        }
+        toldNoneBehindTell();
+    }
+
+    private static void toldNoneBehindTell() {
+        MonitorTurns x = shelf();
+        go(x, 0, ONE, row(50), op(ENTER, 0), op(WAIT, 0, 0), PAUSE);
+        x.run(2);
+        go(x, 1, ONE, row(), op(ENTER, 0), op(TELL, 0), op(LEAVE, 0), op(GO, 3));
+        x.run(2);
+        DUE.is("told(0, 0) behind TELL", x.told(0, 0), T_BLOCKED);
+        DUE.is("told(0, 5) behind TELL", x.told(0, 5), PLAIN);
+        DUE.is("told(0, 6) behind TELL", x.told(0, 6), NONE);
+        x.turn();
+        isReadyAgain("let in", x);
     }
 
     private static void toldHandlers() {

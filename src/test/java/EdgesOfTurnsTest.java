@@ -50,17 +50,6 @@ public final class EdgesOfTurnsTest extends Scenes {
         DUE.close();
     }
 
-    private static void states(MonitorTurns x, int... want) {
-        for (int t = 0; t < want.length; t++) {
-            DUE.is("told(" + t + ", 0)", x.told(t, 0), want[t]);
-        }
-    }
-
-    private static void in(MonitorTurns x, int thing, int thread, int depth) {
-        DUE.is("of(" + thing + ", 2)", x.of(thing, 2), thread);
-        DUE.is("of(" + thing + ", 3)", x.of(thing, 3), depth);
-    }
-
     private static void turns(MonitorTurns x, int... want) {
         for (int i = 0; i < want.length; i++) {
             DUE.is("turn() number " + i, x.turn(), want[i]);
@@ -77,13 +66,13 @@ public final class EdgesOfTurnsTest extends Scenes {
             go(x, 1, ONE, row(), PAUSE, IN, op(GO, 2));
             go(x, 2, ONE, row(), PAUSE, PAUSE, PAUSE, op(ENTER, 1), op(GO, 4));
             x.run(10);
-            states(x, T_READY, T_BLOCKED, T_BLOCKED);
-            in(x, PLAIN, 0, 3);
-            in(x, BOX, 0, 1);
+            DUE.states(x, T_READY, T_BLOCKED, T_BLOCKED);
+            DUE.in(x, PLAIN, 0, 3);
+            DUE.in(x, BOX, 0, 1);
             x.turn();
-            states(x, T_ENDED, T_READY, T_READY);
-            in(x, PLAIN, 1, 1);
-            in(x, BOX, 2, 1);
+            DUE.states(x, T_ENDED, T_READY, T_READY);
+            DUE.in(x, PLAIN, 1, 1);
+            DUE.in(x, BOX, 2, 1);
         }
         // 32 THINGS, the last one too
         MonitorTurns x = new MonitorTurns();
@@ -92,10 +81,10 @@ public final class EdgesOfTurnsTest extends Scenes {
         }
         go(x, 0, row(31, 0), row(), IN, op(ENTER, 1), PAUSE);
         x.run(2);
-        in(x, 31, 0, 1);
+        DUE.in(x, 31, 0, 1);
         x.turn();
-        in(x, 31, NONE, 0);
-        in(x, 0, NONE, 0);
+        DUE.in(x, 31, NONE, 0);
+        DUE.in(x, 0, NONE, 0);
     }
 
     private static void endWakesThoseJoining() {
@@ -106,9 +95,9 @@ public final class EdgesOfTurnsTest extends Scenes {
             go(x, t, ONE, row(2), op(JOIN, 0), PAUSE);
         }
         x.run(6);
-        states(x, T_JOINING, T_JOINING, T_READY, T_JOINING, T_JOINING, T_JOINING);
+        DUE.states(x, T_JOINING, T_JOINING, T_READY, T_JOINING, T_JOINING, T_JOINING);
         x.turn();
-        states(x, T_READY, T_READY, T_ENDED, T_READY, T_READY, T_READY);
+        DUE.states(x, T_READY, T_READY, T_ENDED, T_READY, T_READY, T_READY);
     }
 
     private static void endInTheTurnThatBringsItThere() {
@@ -118,10 +107,10 @@ public final class EdgesOfTurnsTest extends Scenes {
             MonitorTurns x = shelf();
             go(x, 0, ONE, row(0, 5), act);
             DUE.is("turn()", x.turn(), 0);
-            states(x, T_ENDED);
+            DUE.states(x, T_ENDED);
             DUE.is("told(0, 1)", x.told(0, 1), 1);
             DUE.is("told(0, 2)", x.told(0, 2), 0);
-            in(x, PLAIN, NONE, 0);
+            DUE.in(x, PLAIN, NONE, 0);
             DUE.is("turn()", x.turn(), OVER);
         }
     }
@@ -131,32 +120,32 @@ public final class EdgesOfTurnsTest extends Scenes {
         MonitorTurns x = shelf();
         go(x, 0, ONE, row(2), NAP);
         x.turn();
-        states(x, T_SLEEPING);
+        DUE.states(x, T_SLEEPING);
         turns(x, IDLE, 0, OVER);
-        states(x, T_ENDED);
+        DUE.states(x, T_ENDED);
         DUE.is("told(0, 8)", x.told(0, 8), 1);
         // BLOCKED there, let in
         x = shelf();
         go(x, 0, ONE, row(), IN, PAUSE, OUT, op(GO, 3));
         go(x, 1, ONE, row(), IN);
         x.run(4);
-        states(x, T_READY, T_READY);
-        in(x, PLAIN, 1, 1);
+        DUE.states(x, T_READY, T_READY);
+        DUE.in(x, PLAIN, 1, 1);
         turns(x, 1);
-        states(x, T_READY, T_ENDED);
-        in(x, PLAIN, NONE, 0);
+        DUE.states(x, T_READY, T_ENDED);
+        DUE.in(x, PLAIN, NONE, 0);
         // WAITING there, its TIME comes
         x = shelf();
         go(x, 0, ONE, row(1), IN, AWAIT);
         turns(x, 0, 0);
-        states(x, T_WAITING);
+        DUE.states(x, T_WAITING);
         turns(x, 0, OVER);
         // JOINING there
         x = shelf();
         go(x, 0, ONE, row(1), op(JOIN, 0));
         go(x, 1, ONE, row(1), PAUSE);
         turns(x, 0, 1);
-        states(x, T_READY, T_ENDED);
+        DUE.states(x, T_READY, T_ENDED);
         turns(x, 0, OVER);
     }
 
@@ -181,7 +170,7 @@ public final class EdgesOfTurnsTest extends Scenes {
         for (int state : row(T_SLEEPING, T_JOINING)) {
             MonitorTurns x = inState(state);
             x.broken(0);
-            states(x, T_READY);
+            DUE.states(x, T_READY);
             DUE.is("told(0, 4)", x.told(0, 4), 0);
             DUE.is("told(0, 5)", x.told(0, 5), NONE);
             DUE.is("told(0, 6)", x.told(0, 6), NONE);
@@ -193,15 +182,15 @@ public final class EdgesOfTurnsTest extends Scenes {
         DUE.sentence("one that is WAITING begins TO GET IN");
         MonitorTurns x = inState(T_WAITING);
         x.broken(0);
-        states(x, T_READY);
-        in(x, PLAIN, 0, 1);
+        DUE.states(x, T_READY);
+        DUE.in(x, PLAIN, 0, 1);
         DUE.is("told(0, 4)", x.told(0, 4), 0);
         x = inState(T_WAITING);
         go(x, 1, ONE, row(), IN, op(GO, 1));
         x.turn();
         x.broken(0);
-        states(x, T_BLOCKED, T_READY);
-        in(x, PLAIN, 1, 1);
+        DUE.states(x, T_BLOCKED, T_READY);
+        DUE.in(x, PLAIN, 1, 1);
         DUE.is("told(0, 4)", x.told(0, 4), 0);
         DUE.is("of(0, 4)", x.of(PLAIN, 4), 1);
         DUE.is("of(0, 5)", x.of(PLAIN, 5), 0);
@@ -211,10 +200,10 @@ public final class EdgesOfTurnsTest extends Scenes {
         go(x, 1, ONE, row(), PAUSE, IN, op(GO, 2));
         x.run(4);
         x.broken(0);
-        states(x, T_BLOCKED, T_READY);
+        DUE.states(x, T_BLOCKED, T_READY);
         DUE.is("told(0, 6)", x.told(0, 6), NONE);
         x.run(20);
-        states(x, T_BLOCKED, T_READY);
+        DUE.states(x, T_BLOCKED, T_READY);
     }
 
     private static void brokenFailsInItsNextTurn() {
@@ -226,7 +215,7 @@ public final class EdgesOfTurnsTest extends Scenes {
             x.broken(0);
             DUE.is("count(9)", x.count(9), 0);
             turns(x, 0);
-            states(x, T_ENDED);
+            DUE.states(x, T_ENDED);
             DUE.is("told(0, 2)", x.told(0, 2), F_BROKEN);
             DUE.is("told(0, 1)", x.told(0, 1), acts[state]);
             DUE.is("told(0, 8)", x.told(0, 8), acts[state]);
@@ -243,7 +232,7 @@ public final class EdgesOfTurnsTest extends Scenes {
         turns(x, 0);
         DUE.is("told(0, 1)", x.told(0, 1), 1);
         turns(x, 0);
-        states(x, T_SLEEPING);
+        DUE.states(x, T_SLEEPING);
         DUE.is("told(0, 6)", x.told(0, 6), 13);
     }
 
@@ -261,13 +250,13 @@ public final class EdgesOfTurnsTest extends Scenes {
         x.broken(0);
         turns(x, 0);
         DUE.is("told(0, 2): met, then ENDED", x.told(0, 2), 0);
-        states(x, T_ENDED);
+        DUE.states(x, T_ENDED);
         // with the FLAG alone it ENDS
         x = shelf();
         go(x, 0, ONE, row(1), NAP);
         go(x, 1, ONE, row(), ROUND);
         turns(x, 0, 1);
-        states(x, T_READY);
+        DUE.states(x, T_READY);
         x.broken(0);
         turns(x, 0);
         DUE.is("told(0, 2)", x.told(0, 2), 0);
@@ -295,7 +284,7 @@ public final class EdgesOfTurnsTest extends Scenes {
             DUE.is("told(0, 4)", x.told(0, 4), 0);
             x.broken(0);
             DUE.is("told(0, 4)", x.told(0, 4), 1);
-            states(x, state);
+            DUE.states(x, state);
             x.broken(0);
             DUE.is("told(0, 4), broken twice", x.told(0, 4), 1);
             x.run(3);
@@ -309,7 +298,7 @@ public final class EdgesOfTurnsTest extends Scenes {
         for (int state : row(T_NONE, T_NEW, T_ENDED)) {
             MonitorTurns x = inState(state);
             x.broken(0);
-            states(x, state);
+            DUE.states(x, state);
             DUE.is("told(0, 4)", x.told(0, 4), 0);
         }
         MonitorTurns x = inState(T_NEW);
@@ -341,18 +330,18 @@ public final class EdgesOfTurnsTest extends Scenes {
         go(x, 1, ONE, row(3), IN, AWAIT, PAUSE, PAUSE);
         go(x, 2, ONE, row(), ROUND);
         turns(x, 0, 1, 2);
-        states(x, T_SLEEPING, T_READY, T_READY);
+        DUE.states(x, T_SLEEPING, T_READY, T_READY);
         DUE.is("told(0, 6)", x.told(0, 6), 4);
         // at TIME 4, not ahead of it, and behind it not once more
         turns(x, 0);
-        states(x, T_READY, T_READY, T_READY);
+        DUE.states(x, T_READY, T_READY, T_READY);
         turns(x, 1);
         DUE.is("told(1, 6)", x.told(1, 6), 8);
         turns(x, 2, 0);
-        states(x, T_ENDED, T_WAITING, T_READY);
+        DUE.states(x, T_ENDED, T_WAITING, T_READY);
         turns(x, 1);
         DUE.is("count(0)", x.count(0), 8);
-        in(x, PLAIN, 1, 1);
+        DUE.in(x, PLAIN, 1, 1);
     }
 
     private static void timeHasComeByThreads() {
@@ -366,10 +355,10 @@ public final class EdgesOfTurnsTest extends Scenes {
         DUE.is("told(1, 6)", x.told(1, 6), 6);
         DUE.is("told(2, 6)", x.told(2, 6), 6);
         turns(x, 1);
-        states(x, T_NONE, T_READY, T_BLOCKED);
-        in(x, PLAIN, 1, 1);
+        DUE.states(x, T_NONE, T_READY, T_BLOCKED);
+        DUE.in(x, PLAIN, 1, 1);
         turns(x, 1, 2);
-        in(x, PLAIN, 2, 1);
+        DUE.in(x, PLAIN, 2, 1);
     }
 
     private static void started(MonitorTurns x, int t, int rank) {
@@ -478,7 +467,7 @@ public final class EdgesOfTurnsTest extends Scenes {
         go(x, 0, ONE, row(), IN, op(ENTER, 1), PAUSE);
         go(x, 1, ONE, row(), op(ENTER, 1), IN, PAUSE);
         turns(x, 0, 1, 0, 1, STUCK);
-        states(x, T_BLOCKED, T_BLOCKED);
+        DUE.states(x, T_BLOCKED, T_BLOCKED);
         DUE.is("count(0): TIME stays", x.count(0), 4);
         // others that are NEW or ENDED do not matter
         made(x, 2, PAUSE);

@@ -134,7 +134,7 @@ public final class MonitorTurns {
         if (program == null || !Program.isWellNamed(op, a, b, c)) {
             return BAD;
         }
-        if (crew.isUnderWay(program)) {
+        if (crew.isInUse(program)) {
             return STATE;
         }
         if (program.size >= MOST_ACTS) {
@@ -149,7 +149,7 @@ public final class MonitorTurns {
         if (program == null) {
             return BAD;
         }
-        if (crew.isUnderWay(program)) {
+        if (crew.isInUse(program)) {
             return STATE;
         }
         int had = program.size;
@@ -734,7 +734,7 @@ public final class MonitorTurns {
             return t >= 0 && t < THREADS ? strands[t] : null;
         }
 
-        boolean isUnderWay(Program program) {
+        boolean isInUse(Program program) {
             for (Strand s : strands) {
                 if (s.program == program && s.isUnderWay()) {
                     return true;
